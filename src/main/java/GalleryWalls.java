@@ -1682,17 +1682,24 @@ public final class GalleryWalls {
         }
 
         void tellPlan(int g, int r, Numbers told) {
-            int all = allMoves();
             int from = 0;
             for (int left = need[0] - 1; left >= 0; left--) {
                 reachFrom(from);
-                int to = from;
-                while (to < all && !(isNight(from, to, g, r) && need[to] == left)) {
-                    to = to + 1 | from;
-                }
+                int to = leastNight(from, left, g, r);
                 told.add(to ^ from);
                 from = to;
             }
+        }
+
+        /** The moves that are done behind the least night after which so many nights are left. */
+        private int leastNight(int from, int left, int g, int r) {
+            int all = allMoves();
+            for (int to = from; to < all; to = to + 1 | from) {
+                if (isNight(from, to, g, r) && need[to] == left) {
+                    return to;
+                }
+            }
+            return all;
         }
 
         /** Marks the sets to which these moves can be brought by doing one more each time. */
