@@ -9,6 +9,7 @@ public final class HangingTest {
     neighbours();
     places();
     numbersOfWalls();
+    allOnOneWall();
     Due.end();
   }
 
@@ -235,5 +236,25 @@ public final class HangingTest {
     Due.is("wall -1", -1, x.of(-1, 0));
     Due.is("another wall", 500, x.of(1, 3));
     Due.is("WEIGHTS of another wall", 0, x.of(1, 2));
+  }
+
+  private static void allOnOneWall() {
+    GalleryWalls x = Due.rooms(1);
+    x.wall(0, 3000, 900, 9999);
+    int[] want = new int[24];
+    for (int i = 0; i < 24; i++) {
+      Due.pic(x, 10, 10, 1);
+      Due.is("hang " + i, 0, x.hang(i, 0, 2990 - 30 * i));
+      want[i] = 23 - i;
+    }
+    Due.is("on", 24, x.on(0));
+    Due.row("on", x, want);
+    Due.is("HUNG", 24, x.count(6));
+    Due.is("just behind the others' last", 0, x.fits(0, 0, 2990));
+    Due.is("the least place of the last", 1, x.places(0));
+    Due.row("the least place of the last", x, 0, 0);
+    x.hang(0, 0, 0);
+    Due.is("the least place of 23", 1, x.places(23));
+    Due.row("just behind 0", x, 0, 30);
   }
 }
