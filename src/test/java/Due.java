@@ -1,16 +1,39 @@
+import java.lang.reflect.InvocationTargetException;
+import java.lang.reflect.Method;
 import java.util.Arrays;
+import java.util.Comparator;
 import java.util.NoSuchElementException;
 
 /** What tests share: answers that are due, counted when they are not given. */
 final class Due {
   private static int wrong = 0;
+  private static String where = "";
 
   interface Call { int answer(); }
 
-  static void is(String what, long want, long got) {
-    if (want == got) return;
+  /** Runs each function of a class that bears the name of a promise; what fails is told with this name. */
+  static void each(Class<?> tests) throws IllegalAccessException {
+    Method[] all = tests.getDeclaredMethods();
+    Arrays.sort(all, Comparator.comparing(Method::getName));
+    for (Method m : all) {
+      if (!m.getName().startsWith("promise")) continue;
+      where = m.getName() + ": ";
+      try {
+        m.invoke(null);
+      } catch (InvocationTargetException e) {
+        fault("a call threw " + e.getCause());
+      }
+    }
+    end();
+  }
+
+  static void fault(String what) {
     wrong++;
-    System.out.println(what + " answered " + got + ", due is " + want);
+    System.out.println(where + what);
+  }
+
+  static void is(String what, long want, long got) {
+    if (want != got) fault(what + " answered " + got + ", due is " + want);
   }
 
   static void yes(String what, boolean got) { is(what, 1, got ? 1 : 0); }
@@ -21,24 +44,16 @@ final class Due {
   static void row(String what, GalleryWalls x, int... want) {
     int[] got = new int[x.count(10)];
     for (int i = 0; i < got.length; i++) got[i] = x.row(i);
-    if (!Arrays.equals(want, got)) {
-      wrong++;
-      System.out.println(what + ": the row is " + Arrays.toString(got) + ", due is " + Arrays.toString(want));
-    }
+    if (!Arrays.equals(want, got)) fault(what + ": the row is " + Arrays.toString(got) + ", due is " + Arrays.toString(want));
     thrown(what + ": row(-1)", () -> x.row(-1));
     thrown(what + ": row(" + want.length + ")", () -> x.row(want.length));
   }
 
   static void thrown(String what, Call call) {
     try {
-      int got = call.answer();
-      wrong++;
-      System.out.println(what + " answered " + got + ", due is a NoSuchElementException");
+      fault(what + " answered " + call.answer() + ", due is a NoSuchElementException");
     } catch (NoSuchElementException e) {
-      if (e.getClass() != NoSuchElementException.class) {
-        wrong++;
-        System.out.println(what + " threw " + e);
-      }
+      if (e.getClass() != NoSuchElementException.class) fault(what + " threw " + e);
     }
   }
 

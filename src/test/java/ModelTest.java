@@ -1,4 +1,9 @@
+import java.lang.reflect.InvocationTargetException;
+import java.lang.reflect.Method;
+import java.util.ArrayList;
+import java.util.Arrays;
 import java.util.List;
+import java.util.Map;
 import java.util.NoSuchElementException;
 import java.util.Random;
 
@@ -12,9 +17,9 @@ public final class ModelTest {
   private static final int[] WEIGHTS = {3, 8, 8, 10, 5, 5, 14, 14, 8, 2,
     2, 6, 12, 14, 60, 6, 4, 6, 6, 6, 5, 6, 8, 5, 5,
     12, 12, 7, 10, 7, 10, 5, 10, 8, 25, 10, 3, 8, 8, 8, 3, 3};
+  private static final Map<Class<?>, Method[]> CALLS =
+    Map.of(GalleryWalls.class, callsOf(GalleryWalls.class), Model.class, callsOf(Model.class));
   private static int wrong = 0;
-  private static final boolean HIST = System.getenv("HIST") != null;
-  private static java.util.TreeMap<String, Integer> hist = new java.util.TreeMap<>();
   private static int[] good = new int[NAMES.length];
 
   public static void main(String[] args) {
@@ -24,7 +29,6 @@ public final class ModelTest {
     for (int seed = 1; seed <= 600 && wrong < 10; seed++) runTerms(seed);
     for (int i = 0; i < NAMES.length; i++)
       if (good[i] < 50) { wrong++; System.out.println("too few good answers of " + NAMES[i] + ": " + good[i]); }
-    if (HIST) System.out.println(hist);
     if (wrong != 0) System.exit(1);
   }
 
@@ -72,13 +76,12 @@ public final class ModelTest {
 
   /** One call on both: the answers and the rows have to agree. */
   private static int compare(int seed, StringBuilder said, GalleryWalls x, Model m, int which, int... told) {
-    int[] a = java.util.Arrays.copyOf(told, 7);
-    String call = NAMES[which] + java.util.Arrays.toString(a);
-    int want = onModel(m, which, a);
-    int got = onProgram(x, which, a);
+    int[] a = Arrays.copyOf(told, 7);
+    String call = NAMES[which] + Arrays.toString(a);
+    int want = answer(m, which, a);
+    int got = answer(x, which, a);
     said.append(call).append(" -> ").append(got).append('\n');
     if (got >= 0) good[which]++;
-    if (HIST) hist.merge(NAMES[which] + " " + (got == THROWN ? "thrown" : got > 20 ? "more" : got < -100 ? "less" : "" + got), 1, Integer::sum);
     check(seed, said, call, got, want);
     List<Integer> row = rowOf(x);
     if (!row.equals(m.row)) {
@@ -189,7 +192,7 @@ public final class ModelTest {
   }
 
   private static List<Integer> rowOf(GalleryWalls x) {
-    List<Integer> row = new java.util.ArrayList<>();
+    List<Integer> row = new ArrayList<>();
     for (int i = 0; i < x.count(10); i++) row.add(x.row(i));
     return row;
   }
@@ -198,7 +201,7 @@ public final class ModelTest {
     if (got == want) return;
     wrong++;
     System.out.println("seed " + seed + ": " + call + " answered " + got + ", due is " + want);
-    if (wrong == 1 && System.getenv("SAY") != null) System.out.println(said);
+    if (wrong == 1) System.out.println("the run so far:\n" + said);
   }
 
   private static void compareStates(int seed, StringBuilder said, GalleryWalls x, Model m) {
@@ -269,7 +272,7 @@ public final class ModelTest {
       case 7: {
         if (i == 0) return pic;
         if (i == 1) return odd ? r.nextInt(7) - 1 : r.nextInt(4);
-if (a[1] == 2) return odd ? r.nextInt(1100000) : r.nextInt(60000);
+        if (a[1] == 2) return odd ? r.nextInt(1100000) : r.nextInt(60000);
         if (a[1] == 3) return r.nextInt(4) == 0 ? r.nextInt(420) : 300 + r.nextInt(103);
         return r.nextInt(6) == 0 ? -1 : pic;
       }
@@ -306,105 +309,33 @@ if (a[1] == 2) return odd ? r.nextInt(1100000) : r.nextInt(60000);
     }
   }
 
-  private static int onProgram(GalleryWalls x, int which, int[] a) {
+  /** The call of this number, on the program or on the Model: both have it under the same name. */
+  private static int answer(Object of, int which, int[] a) {
+    Method call = CALLS.get(of.getClass())[which];
+    Object[] told = new Object[call.getParameterCount()];
+    for (int i = 0; i < told.length; i++) told[i] = call.getParameterTypes()[i] == boolean.class ? (Object) (a[i] == 1) : (Object) a[i];
     try {
-      switch (which) {
-        case 0: return x.room();
-        case 1: return x.door(a[0], a[1], a[2], a[3]);
-        case 2: return x.wall(a[0], a[1], a[2], a[3]);
-        case 3: return x.light(a[0], a[1], a[2], a[3], a[4]);
-        case 4: return b(x.blind(a[0], a[1], a[2]));
-        case 5: return x.set(a[0], a[1]);
-        case 6: return x.picture(a[0], a[1], a[2], a[3], a[4], a[5], a[6]);
-        case 7: return x.tell(a[0], a[1], a[2]);
-        case 8: return x.sign(a[0]);
-        case 9: return b(x.end(a[0]));
-        case 10: return x.term(a[0], a[1]);
-        case 11: return x.force(a[0]);
-        case 12: return x.why(a[0], a[1], a[2]);
-        case 13: return x.fits(a[0], a[1], a[2]);
-        case 14: return x.hang(a[0], a[1], a[2]);
-        case 15: return b(x.store(a[0]));
-        case 16: return b(x.send(a[0]));
-        case 17: return x.at(a[0], a[1]);
-        case 18: return x.on(a[0]);
-        case 19: return x.places(a[0]);
-        case 20: return x.of(a[0], a[1]);
-        case 21: return x.step(a[0]);
-        case 22: return x.fades(a[0]);
-        case 23: return x.shown(a[0], a[1], a[2]);
-        case 24: return x.owed(a[0], a[1]);
-        case 25: return x.like(a[0], a[1], a[2]);
-        case 26: return x.best(a[0], a[1]);
-        case 27: return x.lay();
-        case 28: return x.tale(a[0]);
-        case 29: return x.route(a[0]);
-        case 30: return x.breaks();
-        case 31: return b(x.shut(a[0], a[1] == 1));
-        case 32: return x.way(a[0], a[1], a[2]);
-        case 33: return x.bars(a[0], a[1], a[2]);
-        case 34: return x.move(a[0], a[1], a[2]);
-        case 35: return x.nights(a[0], a[1]);
-        case 36: return x.done();
-        case 37: return x.stand(a[0]);
-        case 38: return b(x.sight(a[0], a[1]));
-        case 39: return x.guard(a[0]);
-        case 40: return x.count(a[0]);
-        default: return x.row(a[0]);
-      }
-    } catch (NoSuchElementException e) {
-      return THROWN;
+      Object answer = call.invoke(of, told);
+      return answer instanceof Boolean is ? b(is) : (Integer) answer;
+    } catch (InvocationTargetException e) {
+      if (e.getCause() instanceof NoSuchElementException) return THROWN;
+      throw new IllegalStateException(call.getName() + Arrays.toString(a), e.getCause());
+    } catch (IllegalAccessException e) {
+      throw new IllegalStateException(e);
     }
   }
 
-  private static int onModel(Model x, int which, int[] a) {
-    try {
-      switch (which) {
-        case 0: return x.room();
-        case 1: return x.door(a[0], a[1], a[2], a[3]);
-        case 2: return x.wall(a[0], a[1], a[2], a[3]);
-        case 3: return x.light(a[0], a[1], a[2], a[3], a[4]);
-        case 4: return b(x.blind(a[0], a[1], a[2]));
-        case 5: return x.set(a[0], a[1]);
-        case 6: return x.picture(a[0], a[1], a[2], a[3], a[4], a[5], a[6]);
-        case 7: return x.tell(a[0], a[1], a[2]);
-        case 8: return x.sign(a[0]);
-        case 9: return b(x.end(a[0]));
-        case 10: return x.term(a[0], a[1]);
-        case 11: return x.force(a[0]);
-        case 12: return x.why(a[0], a[1], a[2]);
-        case 13: return x.fits(a[0], a[1], a[2]);
-        case 14: return x.hang(a[0], a[1], a[2]);
-        case 15: return b(x.store(a[0]));
-        case 16: return b(x.send(a[0]));
-        case 17: return x.at(a[0], a[1]);
-        case 18: return x.on(a[0]);
-        case 19: return x.places(a[0]);
-        case 20: return x.of(a[0], a[1]);
-        case 21: return x.step(a[0]);
-        case 22: return x.fades(a[0]);
-        case 23: return x.shown(a[0], a[1], a[2]);
-        case 24: return x.owed(a[0], a[1]);
-        case 25: return x.like(a[0], a[1], a[2]);
-        case 26: return x.best(a[0], a[1]);
-        case 27: return x.lay();
-        case 28: return x.tale(a[0]);
-        case 29: return x.route(a[0]);
-        case 30: return x.breaks();
-        case 31: return b(x.shut(a[0], a[1] == 1));
-        case 32: return x.way(a[0], a[1], a[2]);
-        case 33: return x.bars(a[0], a[1], a[2]);
-        case 34: return x.move(a[0], a[1], a[2]);
-        case 35: return x.nights(a[0], a[1]);
-        case 36: return x.done();
-        case 37: return x.stand(a[0]);
-        case 38: return b(x.sight(a[0], a[1]));
-        case 39: return x.guard(a[0]);
-        case 40: return x.count(a[0]);
-        default: return x.row(a[0]);
+  private static Method[] callsOf(Class<?> of) {
+    Method[] calls = new Method[NAMES.length];
+    for (Method m : GalleryWalls.class.getDeclaredMethods()) {
+      int which = Arrays.asList(NAMES).indexOf(m.getName());
+      if (which < 0) continue;
+      try {
+        calls[which] = of.getDeclaredMethod(m.getName(), m.getParameterTypes());
+      } catch (NoSuchMethodException e) {
+        throw new IllegalStateException(e);
       }
-    } catch (NoSuchElementException e) {
-      return THROWN;
     }
+    return calls;
   }
 }
