@@ -160,6 +160,16 @@ public final class NightEdgeTest {
     Due.is("SHOWN on all", 400, x.shown(0, 0, 400));
   }
 
+  static void promise23_aPictureOfTheLastNightStays() {
+    GalleryWalls x = house(0);
+    until(x, 400);
+    x.picture(20, 20, 1, 0, 0, 0, 1);
+    Due.is("hang", 0, x.hang(0, 0, 0));
+    Due.is("no NIGHT more", 400, x.step(0));
+    Due.is("TILL is 400, but none goes BACK", 1, x.at(0, 0));
+    Due.is("HAD", 0, x.at(0, 3));
+  }
+
   // ---- promise 24: fades
 
   private static void fades(int limit, int now, int want) {
@@ -412,6 +422,17 @@ public final class NightEdgeTest {
     until(x, 400);
     Due.is("24 PICTURES on 400 NIGHTS", 24 * 400, x.owed(1, 400));
     Due.is("on one NIGHT", 24, x.owed(1, 1));
+  }
+
+  static void promise26_nightsAheadOfItsMaking() {
+    GalleryWalls x = house(0);
+    x.step(3);
+    x.picture(20, 20, 1, 0, 0, 0, 1);
+    Due.is("not SHOWN on them", 3, x.owed(1, 3));
+    x.hang(0, 0, 0);
+    x.step(1);
+    Due.is("SHOWN on the latest", 0, x.owed(1, 1));
+    Due.is("and not on those ahead", 3, x.owed(1, 4));
   }
 
   static void promise26_allShown() {
