@@ -236,6 +236,22 @@ public final class RowEdgeTest {
     Due.row("0 between them", x, 1, 3, 0, 2);
   }
 
+  static void promise28_ofAsManyAsAreToldNow() {
+    GalleryWalls x = nine();
+    for (int a = 0; a < 8; a++) for (int b = 0; b <= a; b++) x.like(a, b, a * b % 7 - 3);
+    int seven = x.best(0, 0b1111111);
+    for (int bits = 1; bits < 128; bits += 5) {
+      GalleryWalls y = nine();
+      for (int a = 0; a < 8; a++) for (int b = 0; b <= a; b++) y.like(a, b, a * b % 7 - 3);
+      int want = y.best(0, bits);
+      int[] row = new int[y.count(10)];
+      for (int i = 0; i < row.length; i++) row[i] = y.row(i);
+      Due.is("bits " + bits + " behind others", want, x.best(0, bits));
+      Due.row("bits " + bits + " behind others", x, row);
+    }
+    Due.is("seven again", seven, x.best(0, 0b1111111));
+  }
+
   static void promise28_theGreatestAndTheLeastWorth() {
     GalleryWalls x = nine();
     for (int a = 0; a < 8; a++) for (int b = 0; b <= a; b++) x.like(a, b, 99);

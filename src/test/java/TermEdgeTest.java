@@ -228,6 +228,19 @@ public final class TermEdgeTest {
     text(times(30, "1;").substring(0, 59), 0);
   }
 
+  static void promise12_all60SignsCount() {
+    alone(times(59, "!") + "7", 0);
+    alone(times(59, "!") + "0", -2);
+    alone(times(59, "-") + "0", 0);
+    alone(times(58, "-") + "10", -2);
+    alone(times(28, "1;") + "!!!0", -2);
+    alone(times(28, "1;") + "!!!7", 28);
+    alone(times(29, "(") + "00" + times(29, ")"), 0);
+    alone(times(29, "(") + "01" + times(29, ")"), -2);
+    alone(times(29, "1-") + "-1", -2);
+    alone(times(28, "0|") + "!1|0", 0);
+  }
+
   static void promise12_moreThan60IfTheFirstOnesCouldGoOnOrEnd() {
     text(times(29, "1+") + "123", -61);
     text(times(29, "1+") + "12+", -61);
